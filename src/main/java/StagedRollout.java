@@ -180,38 +180,27 @@ public final class StagedRollout {
     }
 
     public int hold(int change) {
-        Change found = fleet.find(change);
-        if (found == null) {
-            return BAD_INDEX;
-        }
-        if (found.state != RUNNING) {
-            return NOT_POSSIBLE;
-        }
-        fleet.become(found, HELD, CHANGE_HELD);
-        return found.begun;
+        return move(change, 1 << RUNNING, HELD, CHANGE_HELD);
     }
 
     public int resume(int change) {
-        Change found = fleet.find(change);
-        if (found == null) {
-            return BAD_INDEX;
-        }
-        if (found.state != HELD) {
-            return NOT_POSSIBLE;
-        }
-        fleet.become(found, RUNNING, CHANGE_RESUMED);
-        return found.begun;
+        return move(change, 1 << HELD, RUNNING, CHANGE_RESUMED);
     }
 
     public int turnBack(int change) {
+        return move(change, 1 << RUNNING | 1 << HELD | 1 << DONE, TURNING, CHANGE_TURNING);
+    }
+
+    /** The states that it may come from are a set, bit i for the state i. */
+    private int move(int change, int fromStates, int toState, int event) {
         Change found = fleet.find(change);
         if (found == null) {
             return BAD_INDEX;
         }
-        if (!found.isWatched() && found.state != DONE) {
+        if ((fromStates >> found.state & 1) == 0) {
             return NOT_POSSIBLE;
         }
-        fleet.become(found, TURNING, CHANGE_TURNING);
+        fleet.become(found, toState, event);
         return found.begun;
     }
 
@@ -865,7 +854,7 @@ public final class StagedRollout {
         final int[] numbers;
         int oldest;
         int size;
-        /** Also counts the entries that the ring has lost again. */
+        /** All that it ever got, also what it lost again: pass() asks only by how much this grew. */
         int received;
 
         Log() {
@@ -875,7 +864,6 @@ public final class StagedRollout {
         void empty() {
             oldest = 0;
             size = 0;
-            received = 0;
         }
 
         void put(int hour, int change, int event, int stage) {
@@ -917,7 +905,6 @@ public final class StagedRollout {
         void copyFrom(Log other) {
             oldest = other.oldest;
             size = other.size;
-            received = other.received;
             System.arraycopy(other.numbers, 0, numbers, 0, MOST_ENTRIES * ENTRY_NUMBERS);
         }
     }

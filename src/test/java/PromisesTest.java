@@ -1072,6 +1072,48 @@ public final class PromisesTest {
             due("it went on", x.change(0, 0), StagedRollout.DONE);
         }
         due("begin(3)", x.begin(3), 6);
+        restoreFullLog();
+        restoreProbes();
+    }
+
+    private static void restoreFullLog() {
+        StagedRollout x = running(4, 0);
+        for (int i = 0; i < 11; i++) {
+            x.hold(0);
+            x.pass(1);
+            x.resume(0);
+        }
+        x.hold(0);
+        x.save(0);
+        long before = x.checksum();
+        due("oldest: event", x.entry(0, 2), 7);
+        x.begin(4);
+        x.restore(0);
+        due("checksum() with a full log", x.checksum(), before);
+        due("oldest: event", x.entry(0, 2), 7);
+        x.resume(0);
+        due("the next one drops the oldest", x.entry(0, 2), 6);
+        due("newest: event", x.entry(19, 2), 7);
+    }
+
+    private static void restoreProbes() {
+        StagedRollout x = running(2, 1, 0);
+        x.setLimit(0);
+        x.pass(1);
+        x.report(0, 3, 1);
+        x.report(1, 1, 3);
+        x.save(0);
+        x.begin(2);
+        x.addChange(false);
+        due("a new change has no probes", x.probes(0, 0) + x.probes(0, 1) + x.probes(0, 2) + x.probes(0, 3), 0);
+        due("nor a chance", x.chance(0, true), 1);
+        x.restore(0);
+        due("bad treated", x.probes(0, 0), 3);
+        due("good treated", x.probes(0, 1), 1);
+        due("bad control", x.probes(0, 2), 1);
+        due("good control", x.probes(0, 3), 3);
+        due("numerator", x.chance(0, false), 17);
+        due("denominator", x.chance(0, true), 70);
     }
 
     private static void checksum() {

@@ -7,16 +7,21 @@ public final class RandomRunsTest {
     private static final int METHODS = 32;
     private static final int[] ODD = {-1, -2, -16, 8, 9, 49, 26, 128, 168, 169, 1001, Integer.MAX_VALUE, Integer.MIN_VALUE};
 
+    /** What a run does most: plans and probes; texts; holding, resuming and saving, which fill the log. */
+    private static final int[][] FREQUENT = {{6, 6, 7, 14, 19, 19, 20}, {7, 7, 7, 13, 14, 12}, {6, 15, 16, 17, 17, 20, 33}};
+
     private final Random random;
     private final StagedRollout real = new StagedRollout();
     private final Reference due = new Reference();
     private final int oddness;
+    private final int mood;
     private final TreeMap<String, Integer> seen;
     private String call = "";
 
     private RandomRunsTest(int run, TreeMap<String, Integer> seen) {
         random = new Random(run);
         oddness = run % 4 == 0 ? 8 : 60;
+        mood = run / 3 % FREQUENT.length;
         this.seen = seen;
         int cells = run % 3 == 0 ? 4 : run % 3 == 1 ? 8 : 1 + random.nextInt(8);
         real.begin(cells);
@@ -95,7 +100,7 @@ public final class RandomRunsTest {
     private int pickMethod() {
         int method = random.nextInt(METHODS + 28);
         if (method >= METHODS) {
-            return new int[] {6, 6, 7, 14, 19, 19, 20}[random.nextInt(7)];
+            return FREQUENT[mood][random.nextInt(FREQUENT[mood].length)];
         }
         boolean isAllOver = due.changes() > 2 && due.w.plans.stream().allMatch(p -> p.is("DONE", "TURNED"));
         if (isAllOver && random.nextInt(4) == 0) {
