@@ -447,7 +447,7 @@ public final class StagedRollout {
         }
 
         boolean putChange(boolean risky) {
-            if (size >= MOST_CHANGES) {
+            if (size < 0 || size >= MOST_CHANGES) {
                 return false;
             }
             list[size].makeNew(risky);

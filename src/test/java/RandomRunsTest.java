@@ -3,7 +3,9 @@ import java.util.TreeMap;
 
 /** Random runs of calls, the same ones in every build, on the class and on the Reference. */
 public final class RandomRunsTest {
-    private static final int RUNS = 3000, CALLS = 512;
+    private static final int RUNS = 10000, CALLS = 512;
+    /** More than the dearest step takes: the text of a stage with odd numbers, each byte with its fault position. */
+    private static final int DEAREST_STEP = 80;
     private static final int METHODS = 32;
     private static final int[] ODD = {-1, -2, -16, 8, 9, 49, 26, 128, 168, 169, 1001, Integer.MAX_VALUE, Integer.MIN_VALUE};
 
@@ -17,6 +19,8 @@ public final class RandomRunsTest {
     private final int mood;
     private final TreeMap<String, Integer> seen;
     private String call = "";
+    /** What later calls than the 512th answer is free, so a run ends before. */
+    private int callsMade = 1;
 
     private RandomRunsTest(int run, TreeMap<String, Integer> seen) {
         random = new Random(run);
@@ -68,9 +72,10 @@ public final class RandomRunsTest {
     }
 
     private boolean isAsDue(int run) {
-        for (int i = 0; i < CALLS; i++) {
+        for (int i = 0; callsMade + DEAREST_STEP <= CALLS; i++) {
             int method = pickMethod();
             long[] answers = both(method);
+            callsMade += 2;
             seen.merge(call.substring(0, call.indexOf('(')) + " " + answers[0], 1, Integer::sum);
             noteStates();
             if (answers[0] != answers[1]) {
@@ -209,6 +214,7 @@ public final class RandomRunsTest {
         }
         long[] answers = {0, 0};
         for (int i = 0; i < piece.length() && answers[0] == answers[1]; i++) {
+            callsMade += 2;
             call = "append(" + (int) piece.charAt(i) + ")";
             answers = two(real.append(piece.charAt(i)), due.append(piece.charAt(i)));
             if (real.faultPosition() != due.faultPosition()) {
