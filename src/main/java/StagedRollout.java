@@ -621,7 +621,7 @@ public final class StagedRollout {
         }
 
         boolean isUnderWay() {
-            return isWatched() || state == TURNING;
+            return state == RUNNING || state == HELD || state == TURNING;
         }
 
         /** Only then are its probes counted, and may a bad chance turn it. */
